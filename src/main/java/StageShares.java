@@ -283,12 +283,12 @@ public final class StageShares {
     }
 
     /** The shares of one batch that wait, the first in front. */
-    private static final class Queue {
+    private static final class WaitingRow {
         private final int[] row;
         private int front;
         private int end;
 
-        Queue(int shares) {
+        WaitingRow(int shares) {
             row = new int[shares];
         }
 
@@ -376,7 +376,7 @@ public final class StageShares {
         private final Work work;
         private final Batches grouping;
         private final Failures failures;
-        private final Queue waiting;
+        private final WaitingRow waiting;
         private final Crew crew;
         private long x;
         private int undone;
@@ -394,7 +394,7 @@ public final class StageShares {
             begun = new int[work.count];
             doers = new int[work.count];
             outcomes = new long[work.count];
-            waiting = new Queue(work.count);
+            waiting = new WaitingRow(work.count);
             crew = new Crew();
             reset();
         }

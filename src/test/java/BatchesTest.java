@@ -13,11 +13,13 @@ final class BatchesTest {
 
     private static void batchesAre(String when, StageShares shares, int... due) {
         int most = -1;
-        for (int share = 0; share < due.length; share++) {
-            DUE.is(when + ": batch(" + share + ")", shares.batch(share), due[share]);
-            most = Math.max(most, due[share]);
+        for (int batch : due) {
+            most = Math.max(most, batch);
         }
         DUE.is(when + ": batches()", shares.batches(), most + 1);
+        for (int share = 0; share < due.length; share++) {
+            DUE.is(when + ": batch(" + share + ")", shares.batch(share), due[share]);
+        }
     }
 
     private static void firstBatchThatFits() {

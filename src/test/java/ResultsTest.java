@@ -15,6 +15,7 @@ final class ResultsTest {
         promise13Result();
         promise13LeftOut();
         promise13RunsThatDidNotEndWell();
+        promise13DoneInARunThatFailedThenLeftOut();
         promise14Joined();
         promise15Plain();
         joinTurns();
@@ -72,6 +73,18 @@ final class ResultsTest {
         shares.fail(0, 1);
         DUE.is("run(1, 0)", shares.run(1, 0), -1);
         DUE.is("result(0), as before", shares.result(0), OF_1);
+    }
+
+    private static void promise13DoneInARunThatFailedThenLeftOut() {
+        StageShares shares = new StageShares(2);
+        shares.value(0, 1);
+        shares.fail(0, 1);
+        DUE.is("run(1, 0)", shares.run(1, 0), -1);
+        shares.leave(0, true);
+        DUE.is("run(1, 0), 0 is left out", shares.run(1, 0), 0);
+        DUE.is("result(0), no run that counts", shares.result(0), 0);
+        shares.leave(0, false);
+        DUE.is("joined(), no run that counts", shares.joined(), 0);
     }
 
     private static void promise14Joined() {
