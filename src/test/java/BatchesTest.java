@@ -34,6 +34,7 @@ final class BatchesTest {
         // 2 goes back to batch 0; 3 meets 2 in batch 0 and 1 in batch 1.
         batchesAre("first that fits", shares, 0, 1, 0, 2, 0, 0);
         shares.touch(0, 15);
+        DUE.is("batch(5), asked before batches()", shares.batch(5), 1);
         batchesAre("as things are now", shares, 0, 1, 0, 2, 0, 1);
         shares.run(3, 9);
         batchesAre("after a run", shares, 0, 1, 0, 2, 0, 1);
