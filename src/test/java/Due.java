@@ -23,6 +23,20 @@ final class Due {
         }
     }
 
+    /** times() of share 0, 1, .. */
+    void times(String when, StageShares shares, int... want) {
+        for (int share = 0; share < want.length; share++) {
+            is(when + ": times(" + share + ")", shares.times(share), want[share]);
+        }
+    }
+
+    /** doneBy() of share 0, 1, .. */
+    void doers(String when, StageShares shares, int... want) {
+        for (int share = 0; share < want.length; share++) {
+            is(when + ": doneBy(" + share + ")", shares.doneBy(share), want[share]);
+        }
+    }
+
     void end() {
         System.out.println(test + ": " + seen + " answers, " + wrong + " wrong");
         if (wrong != 0) {

@@ -23,23 +23,9 @@ final class RunTest {
         promise9FailureAtTheLastStepAlone();
         promise9NothingToDo();
         promise9Outside();
-        promise9TicksAtTheLimit();
-        promise9LastFailureAtTheLimit();
         promises10To12Outside();
         promise11LeftOutThen();
         DUE.end();
-    }
-
-    private static void timesAre(String when, StageShares shares, int... due) {
-        for (int share = 0; share < due.length; share++) {
-            DUE.is(when + ": times(" + share + ")", shares.times(share), due[share]);
-        }
-    }
-
-    private static void doersAre(String when, StageShares shares, int... due) {
-        for (int share = 0; share < due.length; share++) {
-            DUE.is(when + ": doneBy(" + share + ")", shares.doneBy(share), due[share]);
-        }
     }
 
     private static void promise8Fail() {
@@ -79,8 +65,8 @@ final class RunTest {
         shares.touch(2, 1);
         DUE.is("run(1, 77)", shares.run(1, 77), 0);
         DUE.told("one worker", shares, 25, 22, 0, 1, 2, 3, 0);
-        timesAre("one worker", shares, 1, 1, 1);
-        doersAre("one worker", shares, 0, 0, 0);
+        DUE.times("one worker", shares, 1, 1, 1);
+        DUE.doers("one worker", shares, 0, 0, 0);
     }
 
     private static void promise9IdleWorker() {
@@ -88,7 +74,7 @@ final class RunTest {
         shares.steps(0, 3);
         DUE.is("run(2, 0)", shares.run(2, 0), 0);
         DUE.told("idle worker", shares, 6, 3, 0, 2, 1, 1, 0);
-        doersAre("idle worker", shares, 1);
+        DUE.doers("idle worker", shares, 1);
     }
 
     private static void promise9BatchesInOrder() {
@@ -97,7 +83,7 @@ final class RunTest {
         shares.touch(1, 0);
         DUE.is("run(2, 0)", shares.run(2, 0), 0);
         DUE.told("two batches", shares, 7, 2, 0, 2, 2, 2, 0);
-        doersAre("two batches", shares, 1, 0);
+        DUE.doers("two batches", shares, 1, 0);
     }
 
     private static void promise9SeedBelowZero() {
@@ -105,7 +91,7 @@ final class RunTest {
         shares.steps(0, 2);
         DUE.is("run(2, -1)", shares.run(2, -1), 0);
         DUE.told("seed -1", shares, 5, 2, 0, 2, 1, 1, 0);
-        doersAre("seed -1", shares, 0);
+        DUE.doers("seed -1", shares, 0);
     }
 
     private static StageShares fourSharesOfWhichTheFirstHasTwoSteps() {
@@ -119,8 +105,8 @@ final class RunTest {
         shares.fail(1, 0);
         DUE.is("run(2, 0)", shares.run(2, 0), 0);
         DUE.told("one fails", shares, 12, 6, 1, 1, 1, 5, 0);
-        timesAre("one fails", shares, 2, 1, 1, 1);
-        doersAre("one fails", shares, 0, 0, 0, 0);
+        DUE.times("one fails", shares, 2, 1, 1, 1);
+        DUE.doers("one fails", shares, 0, 0, 0, 0);
         DUE.is("run(2, 0), the failure is told no more", shares.run(2, 0), 0);
         DUE.is("told(2)", shares.told(2), 0);
     }
@@ -131,8 +117,8 @@ final class RunTest {
         shares.fail(0, 0);
         DUE.is("run(2, 0)", shares.run(2, 0), -1);
         DUE.told("both fail", shares, 8, 3, 2, 0, 0, 3, 0);
-        timesAre("both fail", shares, 2, 1, 0, 0);
-        doersAre("both fail", shares, NONE, 0, NONE, NONE);
+        DUE.times("both fail", shares, 2, 1, 0, 0);
+        DUE.doers("both fail", shares, NONE, 0, NONE, NONE);
         DUE.is("run(2, 0), all are live again", shares.run(2, 0), 0);
         DUE.is("told(3)", shares.told(3), 2);
     }
@@ -142,8 +128,8 @@ final class RunTest {
         shares.fail(0, 1);
         DUE.is("run(3, 2)", shares.run(3, 2), 0);
         DUE.told("worker 0 fails", shares, 6, 2, 1, 2, 1, 3, 0);
-        timesAre("worker 0 fails", shares, 1, 2);
-        doersAre("worker 0 fails", shares, 1, 2);
+        DUE.times("worker 0 fails", shares, 1, 2);
+        DUE.doers("worker 0 fails", shares, 1, 2);
     }
 
     private static void promise9FailuresThatDoNotCome() {
@@ -163,7 +149,7 @@ final class RunTest {
         shares.fail(0, 1);
         DUE.is("run(1, 0)", shares.run(1, 0), -1);
         DUE.told("at the last step", shares, 23, 20, 1, 0, 1, 2, 0);
-        doersAre("at the last step", shares, 0, NONE);
+        DUE.doers("at the last step", shares, 0, NONE);
     }
 
     private static void promise9NothingToDo() {
@@ -172,7 +158,7 @@ final class RunTest {
         shares.leave(1, true);
         DUE.is("run(16, 3)", shares.run(16, 3), 0);
         DUE.told("all left out", shares, 0, 0, 0, 16, 0, 0, 0);
-        timesAre("all left out", shares, NONE, NONE);
+        DUE.times("all left out", shares, NONE, NONE);
     }
 
     private static void promise9Outside() {
@@ -184,52 +170,7 @@ final class RunTest {
         DUE.is("run(-1)", shares.run(-1, 1), OUTSIDE);
         DUE.is("run(min)", shares.run(Integer.MIN_VALUE, 1), OUTSIDE);
         DUE.told("the run before the refusals", shares, 4, 2, 0, 1, 1, 2, 0);
-        timesAre("the run before the refusals", shares, 1, 1);
-    }
-
-    private static StageShares oneAfterTheOther(int steps) {
-        StageShares shares = new StageShares(64);
-        for (int share = 0; share < 64; share++) {
-            shares.touch(share, 0);
-            shares.steps(share, share == 63 ? 20 : steps);
-            shares.value(share, share + 1);
-        }
-        return shares;
-    }
-
-    // These seeds were searched for: 1146 needs 20000 ticks, 1329 needs 20001.
-    private static void promise9TicksAtTheLimit() {
-        StageShares shares = oneAfterTheOther(20);
-        DUE.is("run(16, 1329)", shares.run(16, 1329), -2);
-        DUE.told("20001 ticks", shares, 20000, 1279, 0, 16, 63, 64, 0);
-        DUE.is("doneBy(63), 20001 ticks", shares.doneBy(63), NONE);
-        DUE.is("result(0), 20001 ticks", shares.result(0), 0);
-        DUE.is("run(16, 1146)", shares.run(16, 1146), 0);
-        DUE.told("20000 ticks", shares, 20000, 1280, 0, 16, 64, 64, 0);
-        DUE.is("joined(), 20000 ticks", shares.joined(), shares.plain());
-        long before = shares.joined();
-        shares.value(5, 99);
-        DUE.is("run(16, 1329)", shares.run(16, 1329), -2);
-        DUE.is("joined(), as before", shares.joined(), before);
-    }
-
-    // Every worker fails at the last share: with seed 109 the last of them in
-    // tick 20000, with seed 4849 it would be in tick 20001.
-    private static void promise9LastFailureAtTheLimit() {
-        StageShares shares = oneAfterTheOther(17);
-        tellAllFailAt(shares, 63);
-        DUE.is("run(16, 109)", shares.run(16, 109), -1);
-        DUE.told("last failure in tick 20000", shares, 20000, 63 * 17 + 16 * 19, 16, 0, 63, 63 + 16, 0);
-        tellAllFailAt(shares, 63);
-        DUE.is("run(16, 4849)", shares.run(16, 4849), -2);
-        DUE.told("last failure after tick 20000", shares, 20000, 63 * 17 + 16 * 19, 15, 1, 63, 63 + 16, 1);
-        DUE.is("times(63)", shares.times(63), 16);
-    }
-
-    private static void tellAllFailAt(StageShares shares, int share) {
-        for (int worker = 0; worker < 16; worker++) {
-            shares.fail(worker, share);
-        }
+        DUE.times("the run before the refusals", shares, 1, 1);
     }
 
     private static void promises10To12Outside() {
@@ -248,11 +189,11 @@ final class RunTest {
         StageShares shares = new StageShares(2);
         shares.run(1, 0);
         shares.leave(0, true);
-        timesAre("left out after the run", shares, 1, 1);
-        doersAre("left out after the run", shares, 0, 0);
+        DUE.times("left out after the run", shares, 1, 1);
+        DUE.doers("left out after the run", shares, 0, 0);
         shares.run(1, 0);
         shares.leave(0, false);
-        timesAre("left out then", shares, NONE, 1);
-        doersAre("left out then", shares, NONE, 0);
+        DUE.times("left out then", shares, NONE, 1);
+        DUE.doers("left out then", shares, NONE, 0);
     }
 }
