@@ -1,15 +1,16 @@
 /**
- * The boundary cases of "2 TO RUN", one method for each sentence that names
- * one; the sentence stands above its method. The short runs were followed by
- * hand. The workers that the seeds choose, of two: seed 1: 0 1 0 0 0 .., seed
- * 5: 0 1 0 1 1 ..; of three: seed 0: 2 0 1 1 2 .., seed 2: 1 0 0 .., seeds 5
- * and -1: 1 2 1 .., the largest and the smallest seed: 0 1 0 ...
+ * The boundary cases of "What it is" and "2 TO RUN", one method for each
+ * sentence that names one; the sentence stands above its method. The short runs
+ * were followed by hand. The workers that the seeds choose, of two: seed 1:
+ * 0 1 0 0 0 .., seed 5: 0 1 0 1 1 ..; of three: seed 0: 2 0 1 1 2 .., seed 2:
+ * 1 0 0 .., seeds 5 and -1: 1 2 1 .., the largest and the smallest seed: 0 1 0 ...
  */
 final class EdgesOfRunTest {
     private static final int NONE = StageShares.NONE;
     private static final Due DUE = new Due("EdgesOfRunTest");
 
     public static void main(String[] args) {
+        usedFor512Calls();
         oneWorker();
         sixteenWorkers();
         seedsAtTheirEnds();
@@ -58,6 +59,18 @@ final class EdgesOfRunTest {
             shares.steps(share, steps);
         }
         return shares;
+    }
+
+    // An object is used for at most 512 calls after it has been made
+    private static void usedFor512Calls() {
+        StageShares shares = longWork(20);
+        int calls = 2 * 64;
+        while (calls < 510) {
+            calls++;
+            DUE.is("run(16, 1329), call " + calls, shares.run(16, 1329), -2);
+        }
+        DUE.is("run(16, 1146), call 511", shares.run(16, 1146), 0);
+        DUE.is("told(0), call 512", shares.told(0), 20000);
     }
 
     // WORKERS 0 .. W - 1, W = 1

@@ -43,6 +43,7 @@ final class FaceTest {
         DUE.is("OUTSIDE", StageShares.OUTSIDE, -3);
         DUE.is("FULL", StageShares.FULL, -4);
         classesInside();
+        namesOfPrivateMethods();
         DUE.end();
     }
 
@@ -71,5 +72,23 @@ final class FaceTest {
             DUE.is(inside + " is static", Modifier.isStatic(modifiers) ? 1 : 0, 1);
             DUE.is(inside + " is public or protected", modifiers & (Modifier.PUBLIC | Modifier.PROTECTED), 0);
         }
+    }
+
+    // Rule 1 of LANGUAGE.md; a class inside may not lend a public name to a method either.
+    private static void namesOfPrivateMethods() {
+        Set<String> publicNames = new TreeSet<>();
+        for (Method method : StageShares.class.getDeclaredMethods()) {
+            if (isSeen(method.getModifiers())) publicNames.add(method.getName());
+        }
+        for (Method method : StageShares.class.getDeclaredMethods()) {
+            if (!isSeen(method.getModifiers())) hasANameOfItsOwn(method, publicNames);
+        }
+        for (Class<?> inside : StageShares.class.getDeclaredClasses()) {
+            for (Method method : inside.getDeclaredMethods()) hasANameOfItsOwn(method, publicNames);
+        }
+    }
+
+    private static void hasANameOfItsOwn(Method method, Set<String> publicNames) {
+        DUE.is(method + " bears the name of a public method", publicNames.contains(method.getName()) ? 1 : 0, 0);
     }
 }
