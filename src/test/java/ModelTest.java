@@ -16,19 +16,26 @@ final class ModelTest {
     private final Model model;
     private int calls = 0;
 
-    private ModelTest(int number) {
+    private ModelTest(String kind, int number, int shares) {
         random = new Random(number);
-        name = "run " + number + ": ";
-        int[] sizes = {0, 1, 2, 3, 5, 8, 20, 63, 64, 70};
-        shares = sizes[number % sizes.length];
+        name = kind + number + ": ";
+        this.shares = shares;
         regions = 1 + random.nextInt(16);
         program = new StageShares(shares);
         model = new Model(shares);
     }
 
     public static void main(String[] args) {
+        int[] sizes = {0, 1, 2, 3, 5, 8, 20, 63, 64, 70};
         for (int number = 0; number < 2000; number++) {
-            new ModelTest(number).go();
+            new ModelTest("run ", number, sizes[number % sizes.length]).go();
+        }
+        int[] ends = new int[3];
+        for (int number = 0; number < 40; number++) {
+            new ModelTest("long run ", number, 64).goLong(ends);
+        }
+        for (int end = 0; end < 3; end++) {
+            DUE.is("some long run ends with -" + end, ends[end] > 0 ? 1 : 0, 1);
         }
         DUE.end();
     }
@@ -36,6 +43,30 @@ final class ModelTest {
     private void go() {
         while (calls + CALLS_A_TURN <= MOST_CALLS) {
             turn();
+        }
+    }
+
+    /** Runs that go on for about as many ticks as there may be; counts how they end. */
+    private void goLong(int[] ends) {
+        int most = 17 + random.nextInt(4);
+        for (int share = 0; share < shares; share++) {
+            touch(share, 0);
+            steps(share, most - random.nextInt(2));
+        }
+        while (calls + 3 * CALLS_A_TURN <= MOST_CALLS) {
+            tellFailures();
+            ends[-run(16, seed())]++;
+            ask(about(shares));
+        }
+    }
+
+    /** A few, or of all workers at one of the last shares. */
+    private void tellFailures() {
+        boolean isForAll = random.nextInt(3) == 0;
+        int last = shares - 1 - random.nextInt(2);
+        for (int worker = 0; worker < 16; worker++) {
+            if (isForAll) fail(worker, last);
+            else if (random.nextInt(8) == 0) fail(worker, about(shares));
         }
     }
 
@@ -61,8 +92,8 @@ final class ModelTest {
         int share = about(shares);
         int kind = random.nextInt(200);
         if (kind < 120) describe(kind / 3, share);
-        else if (kind < 170) fail(share);
-        else if (kind < 180) run();
+        else if (kind < 170) fail(about(16) / (1 + random.nextInt(4)), share);
+        else if (kind < 180) run(about(16) + 1, seed());
         else if (kind < 199) ask(share);
         else clear();
     }
@@ -78,26 +109,31 @@ final class ModelTest {
             long v = random.nextBoolean() ? random.nextLong() : random.nextInt(9) - 4;
             same("value(" + share + ", " + v + ")", program.value(share, v), model.value(share, v));
         } else if (kind < 22) {
-            int n = about(20) + 1;
-            same("steps(" + share + ", " + n + ")", program.steps(share, n), model.steps(share, n));
+            steps(share, about(20) + 1);
         } else if (kind < 34) {
-            int region = random.nextInt(30) == 0 ? about(16) : random.nextInt(regions);
-            same("touch(" + share + ", " + region + ")", program.touch(share, region), model.touch(share, region));
+            touch(share, random.nextInt(30) == 0 ? about(16) : random.nextInt(regions));
         } else {
             boolean on = random.nextInt(3) == 0;
             same("leave(" + share + ", " + on + ")", program.leave(share, on), model.leave(share, on));
         }
     }
 
-    private void fail(int share) {
-        int worker = about(16) / (1 + random.nextInt(4));
+    private void steps(int share, int n) {
+        same("steps(" + share + ", " + n + ")", program.steps(share, n), model.steps(share, n));
+    }
+
+    private void touch(int share, int region) {
+        same("touch(" + share + ", " + region + ")", program.touch(share, region), model.touch(share, region));
+    }
+
+    private void fail(int worker, int share) {
         same("fail(" + worker + ", " + share + ")", program.fail(worker, share), model.fail(worker, share));
     }
 
-    private void run() {
-        int workers = about(16) + 1;
-        long seed = seed();
-        same("run(" + workers + ", " + seed + ")", program.run(workers, seed), model.run(workers, seed));
+    /** Answers how the model's run ended. */
+    private int run(int workers, long seed) {
+        int due = model.run(workers, seed);
+        same("run(" + workers + ", " + seed + ")", program.run(workers, seed), due);
         for (int what = 0; what < 7; what++) {
             same("told(" + what + ")", program.told(what), model.told(what));
         }
@@ -107,6 +143,7 @@ final class ModelTest {
             same("doneBy(" + share + ")", program.doneBy(share), model.doneBy(share));
             same("result(" + share + ")", program.result(share), model.result(share));
         }
+        return due;
     }
 
     private void ask(int share) {
